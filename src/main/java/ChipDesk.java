@@ -990,15 +990,18 @@ public final class ChipDesk {
             }
             for (int p = 0; p < whole.parts.size(); p++) {
                 Part part = whole.parts.get(p);
-                int start = part.chip == null ? -1 : claimBits(part.chip);
+                Chip used = part.chip;
+                if (used == null) {
+                    return false;
+                }
+                int start = claimBits(used);
                 if (start < 0) {
                     return false;
                 }
                 for (int i = 0; i < part.links.size(); i++) {
                     join(part.links.get(i), base, start);
                 }
-                boolean laid = part.chip.gate == Chip.NO_GATE
-                        ? layOut(part.chip, start, depth + 1) : addGate(part.chip, start);
+                boolean laid = used.gate == Chip.NO_GATE ? layOut(used, start, depth + 1) : addGate(used, start);
                 if (!laid) {
                     return false;
                 }
