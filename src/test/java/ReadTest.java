@@ -10,6 +10,8 @@ public final class ReadTest {
         blanksAndComments();
         noParts();
         longestWord();
+        everyByteOfAWordCounts();
+        boardsOfOtherShapes();
         namesLikeKeywordsAndGates();
         Check.end();
     }
@@ -79,6 +81,38 @@ public final class ReadTest {
                 + "Nand(a=abcdefgh01234567,b=true,out=abcdefgh);Nand(a=abcdefgh,b=true,out=abcdefg);}");
         Check.outIs(desk, 0, 0, 0, 1);
         Check.outIs(desk, 0, 1, 1, 0);
+    }
+
+    private static void everyByteOfAWordCounts() {
+        String word = "abcdefghijklmnop";
+        for (int length = 1; length <= 16; length++) {
+            for (int i = 0; i < length; i++) {
+                String other = word.substring(0, i) + "Z" + word.substring(i + 1, length);
+                Check.board("CHIP A{IN " + word.substring(0, length) + ";OUT " + other + ";PARTS:}");
+            }
+        }
+        for (int length = 1; length < 16; length++) {
+            Check.board("CHIP A{IN " + word.substring(0, length) + ";OUT " + word.substring(0, length + 1) + ";PARTS:}");
+        }
+    }
+
+    /** What one board leaves in the object must not be seen in the next one. */
+    private static void boardsOfOtherShapes() {
+        ChipDesk desk = Check.board("CHIP A{IN a;OUT o;PARTS:Nand(a=a,out=x);Nand(a=x,out=y);Nand(a=y,out=z);"
+                + "Nand(a=z,out=o);Dff(in=x);}");
+        Check.due("tick()", desk.tick(), 1);
+        Check.write(desk, "CHIP B{IN a,b[4];OUT o;PARTS:Nand(a=b[2],b=b[3],out=o);}");
+        Check.due("read()", desk.read(), 0);
+        int[] wants = {1, 0, 2, 1, 1, 1, 0, 1};
+        for (int what = 0; what < wants.length; what++) {
+            Check.due("gates(" + what + ")", desk.gates(what), wants[what]);
+        }
+        Check.outIs(desk, 0, 0, 0, 12);
+        Check.write(desk, NOT);
+        Check.due("read()", desk.read(), 0);
+        Check.outIs(desk, 0, 0, 1);
+        Check.due("gates(0)", desk.gates(0), 1);
+        Check.due("gates(5)", desk.gates(5), 1);
     }
 
     private static void namesLikeKeywordsAndGates() {
