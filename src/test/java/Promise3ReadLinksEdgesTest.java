@@ -2,13 +2,17 @@
 public final class Promise3ReadLinksEdgesTest {
     private static final String PROMISE = "Promise 3, read, Terms, pins and links";
     private static final String WIDTH = "A PIN has a WIDTH, 1 .. 16 (1 if none is told): bits 0, 1, ..";
-    private static final String GATES = "Nand (IN a, b; OUT out: 0 if both are 1, else 1) and Dff (IN in; OUT out), all pins of width 1";
+    private static final String GATES = "Nand (IN a, b; OUT out: 0 if both are 1, else 1) and Dff (IN in; OUT out), "
+            + "all pins of width 1";
     private static final String PARTS = "a pin of the part (a gate, or a chip of the text, ahead or behind)";
     private static final String LEFT = "all its bits, or bit i, or bits i .. j";
-    private static final String RIGHT_OF_IN = "an IN pin of the chip (with a range or without), or an INNER name (without), or true or false (all bits 1, 0)";
-    private static final String RIGHT_OF_OUT = "if it is OUT: an OUT pin of the chip (with a range or without), or an inner name (without), which is that width";
+    private static final String RIGHT_OF_IN = "an IN pin of the chip (with a range or without), or an INNER name "
+            + "(without), or true or false (all bits 1, 0)";
+    private static final String RIGHT_OF_OUT = "if it is OUT: an OUT pin of the chip (with a range or without), or an "
+            + "inner name (without), which is that width";
     private static final String SAME = "Both sides have the same width; the lowest bit goes to the lowest";
-    private static final String INNER = "An inner name may be used ahead of where it is linked, and as often as one likes; it need not be used";
+    private static final String INNER = "An inner name may be used ahead of where it is linked, and as often as one likes; "
+            + "it need not be used";
 
     /** A board with 16 bits on both sides, and parts that turn 16 bits. */
     private static final String HEAD = Texts.NOT16 + "CHIP A{IN a[16];OUT o[16];PARTS:";
@@ -99,8 +103,8 @@ public final class Promise3ReadLinksEdgesTest {
         }
         Check.due("tick()", desk.tick(), 1);
         Check.due("pin(1) behind a tick", desk.pin(1), 1);
-        String[] others = {"Nand(^in=a)", "Nand(^c=a)", "Nand(^A=a)", "Nand(^o=o)", "Nand(^ou=o)", "Nand(^outt=o)", "Dff(^a=a)", "Dff(^b=a)",
-            "Dff(^i=a)", "Dff(^inn=a)", "Dff(^o=o)"};
+        String[] others = {"Nand(^in=a)", "Nand(^c=a)", "Nand(^A=a)", "Nand(^o=o)", "Nand(^ou=o)", "Nand(^outt=o)",
+            "Dff(^a=a)", "Dff(^b=a)", "Dff(^i=a)", "Dff(^inn=a)", "Dff(^o=o)"};
         for (String other : others) {
             Check.fault(4, "CHIP A{IN a;OUT o;PARTS:" + other + ";}");
         }
@@ -204,7 +208,8 @@ public final class Promise3ReadLinksEdgesTest {
     private static void innerNameOftenAndNever() {
         Check.sentence(PROMISE, INNER);
         String often = Texts.times(5, "Nand(a=x,b=x);");
-        ChipDesk desk = Check.board("CHIP A{IN a;OUT o;PARTS:" + often + "Nand(a=a,b=a,out=x,out=y);" + often + "Nand(a=x,b=x,out=o);}");
+        ChipDesk desk = Check.board("CHIP A{IN a;OUT o;PARTS:" + often + "Nand(a=a,b=a,out=x,out=y);" + often
+                + "Nand(a=x,b=x,out=o);}");
         Check.outIs(desk, 0, 1, 1);
         Check.due("gates(7)", desk.gates(7), 11);
     }

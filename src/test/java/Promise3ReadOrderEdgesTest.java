@@ -45,8 +45,9 @@ public final class Promise3ReadOrderEdgesTest {
         String[] parts = {"Nand(a=a,^a=a);", "^Or(a=a);", "Nand(a=^w);"};
         for (int first = 0; first < parts.length; first++) {
             for (int second = 0; second < parts.length; second++) {
-                Check.fault(3 + first, HEAD + parts[first] + parts[second].replace("^", "") + "}");
-                Check.fault(3 + first, HEAD + parts[first] + "}CHIP B{IN a,w[4];OUT o;PARTS:" + parts[second].replace("^", "") + "}");
+                String behind = parts[second].replace("^", "") + "}";
+                Check.fault(3 + first, HEAD + parts[first] + behind);
+                Check.fault(3 + first, HEAD + parts[first] + "}CHIP B{IN a,w[4];OUT o;PARTS:" + behind);
             }
         }
         // In one link from its left name to its right range.

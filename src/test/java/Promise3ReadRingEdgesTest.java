@@ -1,9 +1,11 @@
 /** Promise 3, read: fault 6, the sentence about rings and about what a board has room for in 'Terms'. */
 public final class Promise3ReadRingEdgesTest {
     private static final String PROMISE = "Promise 3, read, fault 6, ring";
-    private static final String ITSELF = "a chip that is a part of itself, or of a part of itself, and so on: the first from the left, at its name";
+    private static final String ITSELF = "a chip that is a part of itself, or of a part of itself, and so on: the first "
+            + "from the left, at its name";
     private static final String GATES = "in the text's last chip, the BOARD, more than 300 gates";
-    private static final String BITS = "more than 8000 bits (of pins and inner names of the board and of all that is in it, gates too)";
+    private static final String BITS = "more than 8000 bits (of pins and inner names of the board and of all that is in it, "
+            + "gates too)";
     private static final String NANDS = "a Nand that gets what it gives by Nands alone";
 
     public static void main(String[] args) {
@@ -58,7 +60,8 @@ public final class Promise3ReadRingEdgesTest {
         Check.sentence(PROMISE, ITSELF);
         // A has a ring in it, but is in none.
         Check.fault(6, Texts.chip("A", "B(a=a);") + "CHIP ^B{IN a;OUT o;PARTS:C(a=a);}" + Texts.chip("C", "B(a=a);"));
-        Check.fault(6, Texts.chip("A", "") + "CHIP ^B{IN a;OUT o;PARTS:D(a=a);}" + Texts.chip("C", "C(a=a);") + Texts.chip("D", "B(a=a);"));
+        Check.fault(6, Texts.chip("A", "") + "CHIP ^B{IN a;OUT o;PARTS:D(a=a);}" + Texts.chip("C", "C(a=a);")
+                + Texts.chip("D", "B(a=a);"));
         Check.fault(6, Texts.chip("A", "D(a=a);") + Texts.chip("B", "D(a=a);") + Texts.chip("C", "A(a=a);B(a=a);")
                 + "CHIP ^D{IN a;OUT o;PARTS:D(a=a);}");
     }
@@ -162,8 +165,9 @@ public final class Promise3ReadRingEdgesTest {
         // A name has its bits once, however often it is used.
         Check.board(bitsBoard("", "W(a=a,b[0..5]=x,c[0..5]=x,o[0..5]=x);"));
         // Inner names of the chips in the board count each time.
-        Check.board("CHIP E{IN a;OUT o;PARTS:}" + Texts.chip("Y", "E(o=x1,o=x2);") + bitsBoard("", "W(a=a);Y(a=true);"));
-        Check.fault(6, "CHIP E{IN a;OUT o;PARTS:}" + Texts.chip("Y", "E(o=x1,o=x2,o=x3);") + bitsBoard("", "W(a=a);Y(a=true);") + "^");
+        String board = bitsBoard("", "W(a=a);Y(a=true);");
+        Check.board(Texts.chip("E", "") + Texts.chip("Y", "E(o=x1,o=x2);") + board);
+        Check.fault(6, Texts.chip("E", "") + Texts.chip("Y", "E(o=x1,o=x2,o=x3);") + board + "^");
     }
 
     private static void bitsOfGates() {

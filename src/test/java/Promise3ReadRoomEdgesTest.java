@@ -4,7 +4,8 @@ import java.util.List;
 /** Promise 3, read: fault 2, the sentence about room in 'Terms'. */
 public final class Promise3ReadRoomEdgesTest {
     private static final String PROMISE = "Promise 3, read, fault 2, room";
-    private static final String INNER = "a 31st inner name of a chip (any name on a right side that is no pin of it; where it comes first, at it)";
+    private static final String INNER = "a 31st inner name of a chip (any name on a right side that is no pin of it; "
+            + "where it comes first, at it)";
 
     public static void main(String[] args) {
         tokens();

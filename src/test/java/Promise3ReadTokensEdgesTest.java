@@ -83,7 +83,8 @@ public final class Promise3ReadTokensEdgesTest {
 
     private static String wordAtEachPlace(String chip, String pin, String part, String left, String right) {
         return "CHIP P{IN " + SIXTEEN + ";OUT u;PARTS:}CHIP " + SIXTEEN + "{IN i;OUT u;PARTS:}"
-                + "CHIP " + chip + "{IN " + pin + ";OUT o;PARTS:" + part + "(i=true);P(" + left + "=q);Nand(out=q,out=" + right + ");}";
+                + "CHIP " + chip + "{IN " + pin + ";OUT o;PARTS:" + part + "(i=true);P(" + left + "=q);"
+                + "Nand(out=q,out=" + right + ");}";
     }
 
     private static void wordOf16Bytes() {

@@ -9,7 +9,7 @@ public final class Promise4PlaceEdgesTest {
         withoutAFault();
         firstPlace();
         lastPlace();
-        everyPlace();
+        manyPlaces();
         ofTheLastReadAlone();
         otherCallsLeaveIt();
         Check.end();
@@ -52,10 +52,11 @@ public final class Promise4PlaceEdgesTest {
         Check.fault(5, Texts.behindBlanks(2000, "CHIP A{IN a;OUT o[17];PARTS:}").replace("17", "^17"));
     }
 
-    /** Around each power of two and a few more, so that no place is held in too few bits. */
-    private static void everyPlace() {
+    /** Around the powers of two, so that no place is held in too few bits. */
+    private static void manyPlaces() {
         Check.sentence(PROMISE, LAST);
-        int[] blanks = {0, 1, 7, 8, 100, 113, 114, 115, 116, 241, 242, 243, 244, 497, 498, 499, 500, 1009, 1010, 1011, 1012, 1970};
+        int[] blanks = {0, 1, 7, 8, 100, 113, 114, 115, 116, 241, 242, 243, 244, 497, 498, 499, 500, 1009, 1010,
+            1011, 1012, 1970};
         for (int count : blanks) {
             for (int kind = 1; kind <= 6; kind++) {
                 Check.fault(kind, " ".repeat(Math.min(count, 2001 - Texts.fault(kind).length())) + Texts.fault(kind));

@@ -92,8 +92,8 @@ public final class Promise5DriveEdgesTest {
     private static void eachWidth() {
         Check.sentence(PROMISE, LOWEST);
         for (int width = 1; width <= 15; width++) {
-            String text = Texts.NOT16 + "CHIP A{IN a[" + width + "],b[" + (16 - width) + "];OUT o[16];PARTS:N16(i[0.." + (width - 1)
-                    + "]=a,i[" + width + "..15]=b,u=o);}";
+            String text = Texts.NOT16 + "CHIP A{IN a[" + width + "],b[" + (16 - width) + "];OUT o[16];PARTS:"
+                    + "N16(i[0.." + (width - 1) + "]=a,i[" + width + "..15]=b,u=o);}";
             ChipDesk desk = Check.board(text);
             int low = (1 << width) - 1;
             Check.outIs(desk, 0, 0xFFFF & ~low, -1);
@@ -119,7 +119,8 @@ public final class Promise5DriveEdgesTest {
     private static void settlesAtOnce() {
         Check.sentence(PROMISE, "all gates settle at once, whatever changes");
         // 300 Nands, the last one first in the text.
-        ChipDesk desk = Check.board(Texts.NOT + Texts.chain("Five", "Not", 5) + Texts.chain("Sixty", "Five", 12) + Texts.chain("All", "Sixty", 5));
+        String below = Texts.NOT + Texts.chain("Five", "Not", 5) + Texts.chain("Sixty", "Five", 12);
+        ChipDesk desk = Check.board(below + Texts.chain("All", "Sixty", 5));
         Check.due("pin(0)", desk.pin(0), 0);
         for (int v = 1; v <= 4; v++) {
             Check.outIs(desk, 0, v & 1, v);

@@ -130,7 +130,8 @@ public final class Promise6PinEdgesTest {
 
     private static void unlinkedPinsOfGates() {
         Check.sentence(PROMISE, UNLINKED);
-        ChipDesk desk = Check.board("CHIP A{IN a;OUT o,p,q;PARTS:Nand(a=true,out=o);Nand(b=true,out=p);Dff(out=q);Dff(in=true);}");
+        ChipDesk desk = Check.board("CHIP A{IN a;OUT o,p,q;PARTS:Nand(a=true,out=o);Nand(b=true,out=p);Dff(out=q);"
+                + "Dff(in=true);}");
         Check.due("pin(0)", desk.pin(0), 1);
         Check.due("pin(1)", desk.pin(1), 1);
         Check.due("tick()", desk.tick(), 1);

@@ -86,8 +86,9 @@ public final class Promise7TickEdgesTest {
             }
             Check.due("pin(0)", desk.pin(0), 0);
         }
-        // Two that change their bits with each other.
-        ChipDesk swap = Check.board("CHIP S{IN a;OUT o[2];PARTS:Nand(a=y,b=true,out=z);Dff(in=z,out=x,out=o[0]);Dff(in=x,out=y,out=o[1]);}");
+        // Two in a ring, one of which gets the other's bit turned.
+        ChipDesk swap = Check.board("CHIP S{IN a;OUT o[2];PARTS:Nand(a=y,b=true,out=z);Dff(in=z,out=x,out=o[0]);"
+                + "Dff(in=x,out=y,out=o[1]);}");
         int[] wants = {0, 1, 3, 2, 0, 1};
         for (int want : wants) {
             Check.due("pin(0)", swap.pin(0), want);
@@ -97,7 +98,8 @@ public final class Promise7TickEdgesTest {
 
     private static void settlesThen() {
         Check.sentence(PROMISE, "all gates settle at once, whatever changes");
-        ChipDesk desk = Check.board(Texts.NOT + Texts.chain("Seven", "Not", 7) + "CHIP A{IN a;OUT o;PARTS:Seven(a=x,o=o);Dff(in=a,out=x);}");
+        ChipDesk desk = Check.board(Texts.NOT + Texts.chain("Seven", "Not", 7)
+                + Texts.chip("A", "Seven(a=x,o=o);Dff(in=a,out=x);"));
         Check.outIs(desk, 0, 1, 1);
         Check.due("gates(7)", desk.gates(7), 4);
         Check.due("tick()", desk.tick(), 1);

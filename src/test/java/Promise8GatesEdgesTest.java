@@ -89,7 +89,8 @@ public final class Promise8GatesEdgesTest {
             for (String parts : boards) {
                 Check.due("gates(5) of " + parts, Check.board(Texts.NOT + chain + Texts.chip("A", parts)).gates(5), n + 1);
             }
-            Check.due("gates(5) of two chains", Check.board(Texts.NOT + chain + Texts.chip("A", "Not(a=a,o=o);Chain(a=a);")).gates(5), n);
+            ChipDesk two = Check.board(Texts.NOT + chain + Texts.chip("A", "Not(a=a,o=o);Chain(a=a);"));
+            Check.due("gates(5) of two chains", two.gates(5), n);
         }
     }
 
